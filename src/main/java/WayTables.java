@@ -203,7 +203,7 @@ public final class WayTables {
         return true;
     }
 
-    /** The slot of the entry with the values and masks that are set: NONE without, so too if a mask is wrong. */
+    /** The slot of the entry with the values and masks that are set; a wrong mask finds NONE, as no entry has it. */
     private int findAsked() {
         for (int slot = 0; slot < entries.size; slot++) {
             if (isAsked(slot)) {
@@ -238,6 +238,7 @@ public final class WayTables {
         return entries.size < capacity && (!hashed || buckets.haveRoom(bucket()));
     }
 
+    /** The caller has tested that there is room, so that the slot is one. */
     private void addAsked(int priority, int action, long datum) {
         int slot = entries.size;
         int prefixOnes = 0;
@@ -367,7 +368,7 @@ public final class WayTables {
             stash = s;
         }
 
-        /** The size is a power of two, so its low bits are the modulo for every sign; 0 is never divided by. */
+        /** The size is 0 or a power of two, for which the low bits are the modulo whatever the sign. */
         int indexOf(long hash) {
             return size == 0 ? NONE : (int) (hash & (size - 1));
         }

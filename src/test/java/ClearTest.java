@@ -42,14 +42,12 @@ public final class ClearTest {
         }
         Check.same("match of the entry without ones", t.match(), 1);
         t.clear();
-        t.key(16, Tables.MASKED);
-        t.make(2, 0, 0);
-        t.set(0, 0, -1);
-        Check.yes("insert of the value 0", t.insert(0, 2, 20));
-        t.clear();
-        t.key(8, Tables.EXACT);
+        for (int i = 0; i < 4; i++) {
+            t.key(8, Tables.EXACT);
+        }
         t.make(16, 1, 0);
-        Check.same("bucket of the value 0", t.bucket(), 0);
+        Check.same("bucket of values of 0", t.bucket(), 0);
+        Check.no("exact masks of 0", t.insert(0, 2, 20));
     }
 
     private static void bucketsAreEmptyAgain() {

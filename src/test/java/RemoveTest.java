@@ -7,6 +7,7 @@ public final class RemoveTest {
         theStashEmpties();
         theOthersKeepTheirTurn();
         theOthersKeepAllTheyHave();
+        theOthersKeepTheirPriority();
         Check.end();
     }
 
@@ -106,5 +107,15 @@ public final class RemoveTest {
         Check.same("its datum", t.datum(), 20);
         t.set(3, 9, -1);
         Check.same("another last key", Tables.match(t, 0xF1), WayTables.NONE);
+    }
+
+    private static void theOthersKeepTheirPriority() {
+        WayTables t = Tables.masked(3);
+        Tables.insert(t, 1, 1, 2, 1, 10);
+        Tables.insert(t, 2, 2, 0, 2, 20);
+        Tables.insert(t, 4, 4, 1, 3, 30);
+        t.set(0, 1, 1);
+        t.remove();
+        Check.same("the greater priority of those that stay", Tables.match(t, 7), 3);
     }
 }
