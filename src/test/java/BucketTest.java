@@ -11,6 +11,8 @@ public final class BucketTest {
     public static void main(String[] args) {
         withoutAHashedTable();
         knownBuckets();
+        theLastBucket();
+        entriesDoNotMove();
         for (int n = 1; n <= 16; n *= 2) {
             oneKey(n, 64);
             oneKey(n, 33);
@@ -26,6 +28,34 @@ public final class BucketTest {
         Check.same("before make", t.bucket(), WayTables.NONE);
         Check.same("with a prefix", Tables.bucket(Tables.prefixed(4), 1), WayTables.NONE);
         Check.same("with a mask", Tables.bucket(Tables.masked(4), 1), WayTables.NONE);
+        Check.same("of a new object", Tables.bucket(new WayTables(), 1), WayTables.NONE);
+        Check.failsArgument("a wrong make", () -> t.make(16, 5, 0));
+        Check.same("after a wrong make", Tables.bucket(t, 1), WayTables.NONE);
+        t.make(16, 4, 0);
+        Check.same("after make", t.bucket(), 1);
+        t.clear();
+        Check.same("after clear", Tables.bucket(t, 1), WayTables.NONE);
+        t.key(8, 2);
+        t.make(16, 4, 0);
+        Check.same("when the next table is not hashed", t.bucket(), WayTables.NONE);
+    }
+
+    private static void theLastBucket() {
+        for (int n = 1; n <= 16; n *= 2) {
+            WayTables t = Tables.hashed(n, 1, 0);
+            Check.same("the last of " + n, Tables.bucket(t, n - 1), n - 1);
+            Check.same("round to the first of " + n, Tables.bucket(t, n), 0);
+        }
+    }
+
+    private static void entriesDoNotMove() {
+        WayTables t = Tables.hashed(4, 1, 2);
+        for (int turn = 0; turn < 4; turn++) {
+            Tables.insert(t, 3 + 4 * turn, -1, 0, 1, 1);
+            Check.same("the bucket, full or above or without room", t.bucket(), 3);
+        }
+        t.remove();
+        Check.same("the bucket of one that is not there", t.bucket(), 3);
     }
 
     private static void knownBuckets() {
@@ -65,11 +95,11 @@ public final class BucketTest {
     }
 
     private static void twoKeys(int n) {
-        WayTables t = new WayTables();
-        t.key(64, 0);
-        t.key(40, 0);
-        t.make(n, 1, 0);
         for (long a : VALUES) {
+            WayTables t = new WayTables();
+            t.key(64, 0);
+            t.key(40, 0);
+            t.make(n, 1, 0);
             for (long b : VALUES) {
                 t.set(0, a, 0);
                 t.set(1, b, 0);

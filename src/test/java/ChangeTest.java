@@ -6,6 +6,9 @@ public final class ChangeTest {
         wrongActions();
         valuesAndMasks();
         priorityAndTurnStay();
+        everyEntryOfAFullTable();
+        oneThatWent();
+        wrongMasks();
         Check.end();
     }
 
@@ -71,6 +74,56 @@ public final class ChangeTest {
         Check.no("the second value is another", two.change(2, 20));
         two.set(1, 2, -1);
         Check.yes("both are right", two.change(2, 20));
+    }
+
+    private static void changeAll(WayTables t, int size) {
+        for (int v = 0; v < size; v++) {
+            Tables.insert(t, v, -1, 0, 1, v);
+        }
+        for (int v = 0; v < size; v++) {
+            t.set(0, v, -1);
+            Check.yes("change of " + v, t.change(v & 7, -v));
+            Check.same("match of " + v, t.match(), v & 7);
+            Check.same("datum of " + v, t.datum(), -v);
+        }
+        t.set(0, size, -1);
+        Check.no("change of one that had no room", t.change(1, 1));
+        Check.same("count(0)", t.count(0), size);
+    }
+
+    private static void everyEntryOfAFullTable() {
+        changeAll(Tables.hashed(1, 1, 0), 1);
+        changeAll(Tables.hashed(16, 4, 8), 72);
+        changeAll(Tables.prefixed(32), 32);
+        changeAll(Tables.masked(1), 1);
+    }
+
+    private static void oneThatWent() {
+        for (int kind = 0; kind <= 2; kind++) {
+            WayTables t = Tables.withKeys(8, kind);
+            t.make(1, 2, 0);
+            Tables.insert(t, 1, -1, 0, 1, 10);
+            t.remove();
+            Check.no("change of one that went", t.change(2, 20));
+            Check.same("it does not come again", t.match(), WayTables.NONE);
+            Check.same("count(0)", t.count(0), 0);
+        }
+    }
+
+    private static void wrongMasks() {
+        WayTables p = Tables.prefixed(2);
+        Tables.insert(p, 0, 0, 0, 1, 10);
+        p.set(0, 0, 1);
+        Check.no("a mask that is no prefix", p.change(2, 20));
+        p.set(0, 0, 0x100);
+        Check.yes("a mask that is cut to none", p.change(3, 30));
+        Check.same("match", p.match(), 3);
+        WayTables e = Tables.hashed(1, 1, 0);
+        Tables.insert(e, 0, -1, 0, 1, 10);
+        e.set(0, 0, 0);
+        Check.no("an exact mask without ones", e.change(2, 20));
+        e.set(0, 0, 0xFF);
+        Check.yes("an exact mask that is just as wide", e.change(2, 20));
     }
 
     private static void priorityAndTurnStay() {

@@ -13,6 +13,7 @@ public final class ClearTest {
         valuesAndMasksAreGone(t);
         bucketsAreEmptyAgain();
         onANewObject();
+        isLikeANewObject();
         Check.end();
     }
 
@@ -69,6 +70,47 @@ public final class ClearTest {
         Check.same("bucket() of a table that is not hashed", t.bucket(), WayTables.NONE);
         Tables.insert(t, 2, -1, 0, 0, 0);
         Check.same("count(1) of a table that is not hashed", t.count(1), 0);
+    }
+
+    private static WayTables full(int n, int w, int s, int... kinds) {
+        WayTables t = Tables.withKeys(8, kinds);
+        t.make(n, w, s);
+        for (int i = 0; i < 4; i++) {
+            t.set(i, 1, -1);
+        }
+        for (int v = 0; v < 80; v++) {
+            Tables.insert(t, v, -1, v, v & 7, v);
+        }
+        Check.same("entries before clear", t.count(0), t.count(3));
+        Check.same("match before clear", Tables.match(t, 0), 0);
+        t.set(0, -1, -1);
+        return t;
+    }
+
+    private static void clearedIsNew(String what, WayTables t) {
+        t.clear();
+        Twins.alike("cleared " + what, t, new WayTables());
+    }
+
+    private static void isLikeANewObject() {
+        clearedIsNew("new object", new WayTables());
+        clearedIsNew("one key", Tables.withKeys(8, 0));
+        clearedIsNew("four keys", Tables.withKeys(64, 2, 2, 2, 2));
+        clearedIsNew("prefix key", Tables.withKeys(1, 1));
+        clearedIsNew("empty table", Tables.hashed(16, 4, 8));
+        clearedIsNew("full hashed table of one", full(1, 1, 0, 0));
+        clearedIsNew("full hashed table of 72", full(16, 4, 8, 0));
+        clearedIsNew("full hashed table of four keys", full(1, 4, 8, 0, 0, 0, 0));
+        clearedIsNew("full prefix table", full(32, 0, 0, 1));
+        clearedIsNew("full masked table", full(32, 0, 0, 2, 2, 0));
+        WayTables values = new WayTables();
+        for (int i = 0; i < 4; i++) {
+            values.set(i, -1, -1);
+        }
+        clearedIsNew("object with values", values);
+        WayTables twice = full(32, 0, 0, 2);
+        twice.clear();
+        clearedIsNew("cleared object", twice);
     }
 
     private static void onANewObject() {

@@ -5,6 +5,8 @@ public final class CountTest {
         hashedTables();
         listedTables();
         aboveWays();
+        theLeastAndTheGreatest();
+        afterClear();
         Check.end();
     }
 
@@ -58,6 +60,42 @@ public final class CountTest {
                 Check.same("count(1)", t.count(1), 0);
             }
             noOther(t);
+        }
+    }
+
+    private static void theLeastAndTheGreatest() {
+        int[][] shapes = {{1, 1, 0, 1}, {1, 1, 8, 9}, {1, 4, 0, 4}, {16, 1, 0, 16}, {16, 4, 0, 64}, {16, 4, 8, 72}};
+        for (int[] shape : shapes) {
+            WayTables t = Tables.hashed(shape[0], shape[1], shape[2]);
+            Check.same("count(3)", t.count(3), shape[3]);
+            for (int v = 0; v < 100; v++) {
+                Tables.insert(t, v, -1, 0, 0, 0);
+            }
+            Check.same("count(0) when full", t.count(0), shape[3]);
+            Check.same("count(1) when full", t.count(1), shape[2]);
+            Check.same("count(2) when full", t.count(2), 1);
+            Check.same("count(3) when full", t.count(3), shape[3]);
+            noOther(t);
+        }
+    }
+
+    private static void afterClear() {
+        WayTables t = Tables.hashed(1, 1, 8);
+        for (int v = 0; v < 9; v++) {
+            Tables.insert(t, v, -1, 0, 0, 0);
+        }
+        t.clear();
+        for (int what = -2; what <= 5; what++) {
+            Check.same("count(" + what + ") after clear", t.count(what), what == 2 ? 0 : WayTables.NONE);
+        }
+        t.key(8, 2);
+        for (int what = -2; what <= 5; what++) {
+            Check.same("count(" + what + ") with a key", t.count(what), what == 2 ? 1 : WayTables.NONE);
+        }
+        t.make(7, 1, 8);
+        int[] due = {WayTables.NONE, 0, 0, 1, 7, WayTables.NONE};
+        for (int what = -1; what <= 4; what++) {
+            Check.same("count(" + what + ") of the next table", t.count(what), due[what + 1]);
         }
     }
 

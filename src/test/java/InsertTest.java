@@ -12,6 +12,8 @@ public final class InsertTest {
         roomOfTheGreatestTable();
         roomOfAListedTable();
         aRefusedEntryLeavesNothing();
+        theSameWhenFull();
+        theSameInEveryKey();
         Check.end();
     }
 
@@ -151,6 +153,46 @@ public final class InsertTest {
         one.set(0, 0, 0);
         one.remove();
         Check.yes("room comes again", Tables.insert(one, 0, -1, 0, 1, 1));
+    }
+
+    private static void theSameWhenFull() {
+        for (int kind = 0; kind <= 2; kind++) {
+            WayTables t = Tables.withKeys(8, kind);
+            t.make(1, 1, 0);
+            Check.yes("the only one", Tables.insert(t, 1, -1, 0, 1, 10));
+            Check.no("the same in a full table", Tables.insert(t, 1, -1, 5, 2, 20));
+            Check.no("another in a full table", Tables.insert(t, 2, -1, 5, 2, 20));
+            Check.same("the only one stays", Tables.match(t, 1), 1);
+            Check.same("its datum stays", t.datum(), 10);
+            t.set(0, 1, -1);
+            t.remove();
+            Check.yes("the same when it has gone", t.insert(5, 2, 20));
+            Check.same("it is the new one", t.match(), 2);
+        }
+    }
+
+    /** Entries that differ in one key alone, by its value or by its mask, are not the same. */
+    private static void theSameInEveryKey() {
+        for (int i = 0; i < 4; i++) {
+            WayTables h = Tables.withKeys(8, 0, 0, 0, 0);
+            h.make(1, 2, 0);
+            WayTables m = Tables.withKeys(8, 2, 2, 2, 2);
+            m.make(3, 0, 0);
+            for (int k = 0; k < 4; k++) {
+                h.set(k, 1, -1);
+                m.set(k, 1, -1);
+            }
+            Check.yes("hashed, the first", h.insert(0, 1, 1));
+            Check.no("hashed, the same", h.insert(0, 1, 1));
+            Check.yes("masked, the first", m.insert(0, 1, 1));
+            Check.no("masked, the same", m.insert(0, 1, 1));
+            h.set(i, 2, -1);
+            Check.yes("hashed, another value of key " + i, h.insert(0, 1, 1));
+            m.set(i, 2, -1);
+            Check.yes("masked, another value of key " + i, m.insert(0, 1, 1));
+            m.set(i, 1, 1);
+            Check.yes("masked, another mask of key " + i, m.insert(0, 1, 1));
+        }
     }
 
     private static void aRefusedEntryLeavesNothing() {

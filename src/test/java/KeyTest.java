@@ -6,6 +6,8 @@ public final class KeyTest {
         whatMayNotBeTogether();
         fourAtMost();
         notInAMadeTable();
+        whichExceptionComesFirst();
+        numbersBeginAnew();
         Check.end();
     }
 
@@ -52,6 +54,47 @@ public final class KeyTest {
         Check.failsState("a fifth key that may not be", () -> p.key(8, 1));
         Check.failsState("a fifth masked key with a prefix", () -> p.key(8, 2));
         Check.same("count(2)", p.count(2), 4);
+    }
+
+    /** "The width and KIND first, then this, then what may not be." */
+    private static void whichExceptionComesFirst() {
+        int[] full = {1, 0, 0, 0};
+        WayTables four = Tables.withKeys(8, full);
+        WayTables made = Tables.withKeys(8, 1);
+        made.make(1, 0, 0);
+        WayTables both = Tables.withKeys(8, full);
+        both.make(1, 0, 0);
+        for (WayTables t : new WayTables[] {four, made, both}) {
+            for (int width : new int[] {Integer.MIN_VALUE, 0, 65, Integer.MAX_VALUE}) {
+                for (int kind = 0; kind <= 2; kind++) {
+                    int asked = kind;
+                    Check.failsArgument("width " + width + " before the state", () -> t.key(width, asked));
+                }
+            }
+            for (int kind : new int[] {Integer.MIN_VALUE, -1, 3, Integer.MAX_VALUE}) {
+                Check.failsArgument("kind " + kind + " before the state", () -> t.key(1, kind));
+                Check.failsArgument("kind " + kind + " before the state", () -> t.key(64, kind));
+            }
+            for (int kind = 0; kind <= 2; kind++) {
+                int asked = kind;
+                Check.failsState("the state before what may not be, kind " + kind, () -> t.key(1, asked));
+                Check.failsState("the state before what may not be, kind " + kind, () -> t.key(64, asked));
+            }
+        }
+    }
+
+    private static void numbersBeginAnew() {
+        WayTables t = Tables.withKeys(8, 1, 0, 0, 0);
+        t.make(1, 0, 0);
+        t.clear();
+        for (int k = 0; k < 4; k++) {
+            Check.same("key after clear", t.key(8, 2), k);
+        }
+        WayTables gaps = new WayTables();
+        for (int k = 0; k < 4; k++) {
+            Check.failsArgument("a wrong key", () -> gaps.key(0, 0));
+            Check.same("a wrong key takes no number", gaps.key(8, 0), k);
+        }
     }
 
     private static void notInAMadeTable() {

@@ -5,6 +5,8 @@ public final class MakeTest {
         hashedShapes();
         listedShapes();
         aWrongMakeLeavesNoTable();
+        stateBeforeEveryArgument();
+        onceUntilClear();
         Check.end();
     }
 
@@ -16,6 +18,30 @@ public final class MakeTest {
         Check.failsState("make of a made table", () -> made.make(4, 2, 1));
         Check.failsState("wrong make of a made table", () -> made.make(3, 9, 9));
         Check.same("count(3) of the made table", made.count(3), 9);
+    }
+
+    private static void stateBeforeEveryArgument() {
+        int[][] wrong = {{0, 1, 0}, {17, 1, 0}, {33, 1, 0}, {1, 0, 0}, {1, 5, 0}, {1, 1, -1}, {1, 1, 9}, {1, 1, 0}};
+        for (int[] row : wrong) {
+            WayTables none = new WayTables();
+            Check.failsState("no key before the arguments", () -> none.make(row[0], row[1], row[2]));
+            for (int kind = 0; kind <= 2; kind++) {
+                WayTables made = Tables.withKeys(8, kind);
+                made.make(2, 1, 1);
+                Check.failsState("made before the arguments", () -> made.make(row[0], row[1], row[2]));
+                Check.same("the table stays", made.count(3), kind == 0 ? 3 : 2);
+            }
+        }
+    }
+
+    private static void onceUntilClear() {
+        WayTables t = Tables.hashed(1, 1, 0);
+        Check.failsState("a second make", () -> t.make(1, 1, 0));
+        t.clear();
+        Check.failsState("make after clear, without a key", () -> t.make(1, 1, 0));
+        t.key(8, 0);
+        t.make(16, 4, 8);
+        Check.same("make after clear and key", t.count(3), 72);
     }
 
     private static boolean makes(int kind, int n, int w, int s) {

@@ -2,6 +2,8 @@
 public final class MatchTest {
     public static void main(String[] args) {
         withoutATable();
+        emptyTables();
+        theGreatestTable();
         exactKeys();
         maskedKeys();
         prefixComesFirst();
@@ -15,6 +17,36 @@ public final class MatchTest {
     private static void withoutATable() {
         WayTables t = Tables.withKeys(8, 0);
         Check.failsState("match without a table", () -> t.match());
+        WayTables bare = new WayTables();
+        Check.failsState("match of a new object", () -> bare.match());
+        WayTables cleared = Tables.hashed(1, 1, 0);
+        Tables.insert(cleared, 1, -1, 0, 1, 1);
+        cleared.clear();
+        Check.failsState("match of a cleared object", () -> cleared.match());
+    }
+
+    private static void emptyTables() {
+        for (int kind = 0; kind <= 2; kind++) {
+            WayTables t = Tables.withKeys(8, kind);
+            t.make(1, 1, 0);
+            Check.same("match in a new table", t.match(), WayTables.NONE);
+            Tables.insert(t, 0, -1, 0, 0, 0);
+            Check.same("the action 0 is not NONE", t.match(), 0);
+            t.remove();
+            Check.same("match when all are gone", t.match(), WayTables.NONE);
+        }
+    }
+
+    /** The first and the last of the greatest number, ways and stash alike. */
+    private static void theGreatestTable() {
+        WayTables t = Tables.hashed(16, 4, 8);
+        for (int v = 0; v < 72; v++) {
+            Check.yes("entry " + v, Tables.insert(t, v, -1, -v, v & 7, v));
+        }
+        for (int v = 0; v < 72; v++) {
+            Check.same("match of " + v, Tables.match(t, v), v & 7);
+        }
+        Check.same("match of the next", Tables.match(t, 72), WayTables.NONE);
     }
 
     private static void exactKeys() {
@@ -36,12 +68,16 @@ public final class MatchTest {
     }
 
     private static void maskedKeys() {
+        for (int from = 0; from < 256; from += 64) {
+            WayTables part = Tables.masked(4);
+            Tables.insert(part, 0x5F, 0xA5, 0, 4, 40);
+            for (int v = from; v < from + 64; v++) {
+                int due = (v & 0xA5) == 0x05 ? 4 : WayTables.NONE;
+                Check.same("match of " + v, Tables.match(part, v), due);
+            }
+        }
         WayTables t = Tables.masked(4);
         Tables.insert(t, 0x5F, 0xA5, 0, 4, 40);
-        for (int v = 0; v < 256; v++) {
-            int due = (v & 0xA5) == 0x05 ? 4 : WayTables.NONE;
-            Check.same("match of " + v, Tables.match(t, v), due);
-        }
         Tables.insert(t, 0, 0, -1, 2, 20);
         Check.same("no ones match all", Tables.match(t, 0xA0), 2);
         Check.same("the greater priority", Tables.match(t, 0x05), 4);

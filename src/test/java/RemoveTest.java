@@ -8,6 +8,8 @@ public final class RemoveTest {
         theOthersKeepTheirTurn();
         theOthersKeepAllTheyHave();
         theOthersKeepTheirPriority();
+        untilNoneIsThere();
+        wrongMasks();
         Check.end();
     }
 
@@ -107,6 +109,51 @@ public final class RemoveTest {
         Check.same("its datum", t.datum(), 20);
         t.set(3, 9, -1);
         Check.same("another last key", Tables.match(t, 0xF1), WayTables.NONE);
+    }
+
+    /** From the first on, and from the last on. */
+    private static void untilNoneIsThere() {
+        for (int back = 0; back <= 1; back++) {
+            removeAll(Tables.hashed(16, 4, 8), 72, back == 1);
+            removeAll(Tables.hashed(1, 1, 0), 1, back == 1);
+            removeAll(Tables.prefixed(32), 32, back == 1);
+            removeAll(Tables.masked(32), 32, back == 1);
+        }
+    }
+
+    private static void removeAll(WayTables t, int size, boolean back) {
+        for (int v = 0; v < size; v++) {
+            Check.yes("insert of " + v, Tables.insert(t, v, -1, 0, v & 7, v));
+        }
+        for (int turn = 0; turn < size; turn++) {
+            int v = back ? size - 1 - turn : turn;
+            t.set(0, v, -1);
+            Check.yes("remove of " + v, t.remove());
+            Check.same("entries that stay", t.count(0), size - 1 - turn);
+        }
+        Check.no("remove from an emptied table", t.remove());
+        Check.same("count(0)", t.count(0), 0);
+        Check.same("count(1)", t.count(1), 0);
+        Check.same("match", t.match(), WayTables.NONE);
+        Check.yes("insert into an emptied table", t.insert(0, 5, 50));
+        Check.same("match of it", t.match(), 5);
+    }
+
+    private static void wrongMasks() {
+        WayTables p = Tables.prefixed(2);
+        Tables.insert(p, 0, 0, 0, 1, 10);
+        p.set(0, 0, 1);
+        Check.no("a mask that is no prefix", p.remove());
+        p.set(0, 0, 0x80);
+        Check.no("a prefix that is not there", p.remove());
+        p.set(0, 0, 0x100);
+        Check.yes("a mask that is cut to none", p.remove());
+        WayTables e = Tables.hashed(1, 1, 0);
+        Tables.insert(e, 0, -1, 0, 1, 10);
+        e.set(0, 0, 0);
+        Check.no("an exact mask without ones", e.remove());
+        e.set(0, 0, 0xFF);
+        Check.yes("an exact mask that is just as wide", e.remove());
     }
 
     private static void theOthersKeepTheirPriority() {
